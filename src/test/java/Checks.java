@@ -1,7 +1,22 @@
+import java.util.function.Consumer;
+import java.util.function.ToIntFunction;
+
 /** Counts the answers that are not as due, and ends a test accordingly. */
 final class Checks {
     // A broken promise can spoil millions of answers; the first ones tell enough.
     private static final int MOST_TOLD = 50;
+
+    /** The empty literal, ordinary ones and the edges, each with and without a minus. */
+    static final String[] LITERALS = {
+        "", "0", "00", "7", "42", "214748364", "2147483647", "2147483648", "2147483649", "99999999999",
+        "-", "-0", "-00", "-7", "-42", "-214748364", "-2147483647", "-2147483648", "-2147483649", "-99999999999",
+    };
+
+    // What can follow tells the flags that the readings alone don't show: the
+    // started flag by a later minus, the minus flag at magnitude 0 by a digit.
+    private static final String[] FOLLOWING = {
+        "", "-", "-1", "0", "1", "2", "3", "4", "5", "6", "7", "8", "9", "1-", "0-1",
+    };
 
     private int wrong = 0;
     private int seen = 0;
@@ -32,15 +47,37 @@ final class Checks {
         }
     }
 
+    /** After the literal, the call leaves every later answer as it would be without it. */
+    void changesNothing(String literal, String call, Consumer<MinIntGuard> touch) {
+        for (String following : FOLLOWING) {
+            String when = "'" + literal + "', " + call + ", '" + following + "': ";
+            // A pair of objects for each reading: on a shared pair, a reading that
+            // wrongly changes something would spoil both alike and hide it.
+            sameAfter(when + "verdict()", literal, touch, following, MinIntGuard::verdict);
+            sameAfter(when + "asInt()", literal, touch, following, MinIntGuard::asInt);
+        }
+    }
+
+    private void sameAfter(String told, String literal, Consumer<MinIntGuard> touch, String following,
+            ToIntFunction<MinIntGuard> reading) {
+        MinIntGuard touched = fed(literal);
+        MinIntGuard plain = fed(literal);
+        touch.accept(touched);
+        for (char c : following.toCharArray()) {
+            due(told + ", before it " + c, feed(touched, c), feed(plain, c));
+        }
+        due(told, reading.applyAsInt(touched), reading.applyAsInt(plain));
+    }
+
+    static int feed(MinIntGuard x, char c) {
+        return c == '-' ? x.minus() : x.digit(c - '0');
+    }
+
     /** A guard fed with "-" as minus() and each decimal digit as digit(d). */
     static MinIntGuard fed(String literal) {
         MinIntGuard x = new MinIntGuard();
         for (char c : literal.toCharArray()) {
-            if (c == '-') {
-                x.minus();
-            } else {
-                x.digit(c - '0');
-            }
+            feed(x, c);
         }
         return x;
     }
